@@ -693,9 +693,7 @@ public final class TradedDesigns {
         }
 
         void becomeEmpty() {
-            for (int block = 0; block < MOST_BLOCKS; block++) {
-                counts[block] = 0;
-            }
+            clearCounts();
             design = 0;
             kept = 0;
         }
@@ -706,8 +704,9 @@ public final class TradedDesigns {
             kept = other.kept;
         }
 
+        // Also of blocks that are no more, for sizes may become others behind it.
         void clearCounts() {
-            for (int block = 0; block < blocks.many; block++) {
+            for (int block = 0; block < MOST_BLOCKS; block++) {
                 counts[block] = 0;
             }
         }
@@ -869,10 +868,8 @@ public final class TradedDesigns {
 
         int signWritten(int i) {
             int left = i;
-            boolean allZero = true;
             for (int block = 0; block < blocks.many; block++) {
                 if (counts[block] != 0) {
-                    allZero = false;
                     int length = 1 + factorLength(counts[block]) + blocks.k;
                     if (left < length) {
                         return signOfTerm(block, left);
@@ -880,7 +877,8 @@ public final class TradedDesigns {
                     left -= length;
                 }
             }
-            return allZero && i == 0 ? '0' : ABSENT;
+            // Place 0 is passed by only where there are no terms.
+            return i == 0 ? '0' : ABSENT;
         }
 
         private int signOfTerm(int block, int place) {
@@ -1179,15 +1177,13 @@ public final class TradedDesigns {
         /** The fault's place, or -1. */
         int parse() {
             at = 0;
-            for (clauses = 0; clauses < MOST_CLAUSES; clauses++) {
-                if (clauses > 0 && !passSign(';')) {
-                    return at;
-                }
-                if (!parseClause(clauses)) {
+            clauses = 0;
+            for (int clause = 0; clause < MOST_CLAUSES; clause++) {
+                if ((clause > 0 && !passSign(';')) || !parseClause(clause)) {
                     return at;
                 }
                 if (at == length) {
-                    clauses++;
+                    clauses = clause + 1;
                     return -1;
                 }
             }

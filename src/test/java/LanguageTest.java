@@ -13,7 +13,7 @@ import java.util.regex.Pattern;
 /** LANGUAGE.md's rules, so far as they can be read off the source and the compiled classes. */
 public final class LanguageTest {
     private static final String[] FORBIDDEN = {"throw", "throws", "try", "catch", "finally", "synchronized", "assert",
-        "import", "package", "enum switch", "new Object", "Exact\\s*\\(", "->", "::", "static\\s*\\{", "\"\\s*\\+",
+        "import", "package", "Exact\\s*\\(", "->", "::", "static\\s*\\{", "\"\\s*\\+",
         "\\+\\s*\"", "volatile", "transient", "native", "@\\w+", "float", "double", "random", "currentTime", "nanoTime",
         "Thread", "hashCode", "toString", "\\bequals\\b", "while\\s*\\(true\\)", "for\\s*\\(;;"};
 

@@ -248,6 +248,10 @@ public final class RowsDesignsTest {
         before = new Look(x);
         Check.refused("8 no trade", x, before, x.swap(), -3);
         x.count(5, -1);
+        x.put(0, 0);
+        before = new Look(x);
+        Check.refused("8 block 0 goes that isn't there", x, before, x.swap(), -3);
+        x.put(0, 1);
         Check.due("8 it may be", x.swap(), 2);
         x.twist(1324, 1);
         x.twist(1234, 1);

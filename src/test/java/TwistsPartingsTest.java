@@ -27,6 +27,7 @@ public final class TwistsPartingsTest {
 
     private static void open(String what, TradedDesigns x, int many, int first, int times) {
         Check.due("22 " + what + ", how many", x.open(0), many);
+        Check.due("22 " + what + ", how many again", x.open(0), many);
         Check.due("22 " + what + ", first", x.open(1), first);
         Check.due("22 " + what + ", its N", x.open(2), times);
     }

@@ -13,6 +13,7 @@ public final class RowsDesignsTest {
         swapNotMay();
         keepAndDiffer();
         exchange();
+        mostBlocks();
         Check.end();
     }
 
@@ -326,5 +327,39 @@ public final class RowsDesignsTest {
         Check.due("11 block 156", x.of(x.number(2 | 32 | 64), 1), 1);
         Check.due("11 block 567", x.of(55, 0), 100);
         Check.due("11 block 567", x.of(55, 1), 0);
+    }
+
+    // With 56 blocks all rows are full: what goes beyond them would show here.
+    private static void mostBlocks() {
+        TradedDesigns x = new TradedDesigns();
+        x.size(8, 3, 2);
+        Check.due("4 twist of the last", x.twist(162738, -1), 4);
+        Check.text("4 twist of the last", Check.written(x), "-012+125+026-256+017-157-067+567");
+        Check.due("5 turn", x.turn(), 4);
+        Check.due("14 foundation", x.told(2), 231);
+        Check.due("14 plain", x.told(3), 1);
+        Check.due("14 trade", x.told(4), 1);
+        Check.due("19 none amiss", x.amiss(), -5);
+        String[] go = {"125", "026", "017", "567"};
+        for (String block : go) {
+            x.put(x.number(1 << block.charAt(0) - '0' | 1 << block.charAt(1) - '0' | 1 << block.charAt(2) - '0'), 1);
+        }
+        Check.due("22 open", x.open(0), 1);
+        Check.due("22 open", x.open(1), 162738);
+        Check.due("22 open", x.open(2), 2);
+        Check.due("20 the last", x.cover(224), 1);
+        Check.due("8 swap", x.swap(), 4);
+        Check.due("8 the last went", x.of(55, 1), 0);
+        Check.due("8 the first came", x.of(0, 1), 1);
+        Check.due("9 keep", x.keep(), 4);
+        Check.due("11 exchange", x.exchange(0, 7), 1);
+        Check.due("11 127 is in it", x.of(x.number(2 | 4 | 128), 1), 1);
+        x.put(55, 1);
+        x.put(0, 1);
+        Check.due("10 differ", x.differ(), 2);
+        Check.text("10 differ", Check.written(x), "+012+567");
+        Check.due("34 image", x.image(), 6);
+        Check.due("35 undo", x.undo(), 6);
+        Check.due("6 clear", x.clear(), 2);
     }
 }

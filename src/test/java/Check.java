@@ -2,15 +2,39 @@
 final class Check {
     private static int looked = 0;
     private static int wrong = 0;
+    private static final long MOST_SECONDS = 300;
+    private static String about = "";
+
+    static {
+        Thread watch = new Thread(Check::endWhatDoesNotEnd);
+        watch.setDaemon(true);
+        watch.start();
+    }
 
     private Check() {
+    }
+
+    // A call that does not end would hold up .ci/run for good.
+    private static void endWhatDoesNotEnd() {
+        try {
+            Thread.sleep(MOST_SECONDS * 1000);
+        } catch (InterruptedException woken) {
+            return;
+        }
+        System.out.println(about + "no end after " + MOST_SECONDS + " seconds");
+        Runtime.getRuntime().halt(1);
+    }
+
+    /** What the next answers are looked at for: it stands ahead of each that is not as due. */
+    static void about(String sentence) {
+        about = sentence;
     }
 
     static void due(String call, long got, long want) {
         looked++;
         if (got != want) {
             wrong++;
-            System.out.println(call + " answered " + got + ", due is " + want);
+            System.out.println(about + call + " answered " + got + ", due is " + want);
         }
     }
 
@@ -20,13 +44,6 @@ final class Check {
         for (int i = 0; i < Math.min(got.length, want.length); i++) {
             due(call + ", place " + i, got[i], want[i]);
         }
-    }
-
-    /** A call was refused so, and all that can be asked is as it was. */
-    static void refused(String call, TradedDesigns x, Look before, long got, long want) {
-        due(call, got, want);
-        String change = before.changeTo(new Look(x));
-        due(call + " changed " + change, change.isEmpty() ? 0 : 1, 0);
     }
 
     static void feed(TradedDesigns x, String text) {
@@ -53,7 +70,7 @@ final class Check {
         looked++;
         if (!got.equals(want)) {
             wrong++;
-            System.out.println(call + " answered '" + got + "', due is '" + want + "'");
+            System.out.println(about + call + " answered '" + got + "', due is '" + want + "'");
         }
     }
 

@@ -4,8 +4,9 @@ import java.util.List;
 
 /** Long runs of calls, each answered alike by the class and by the model. The same runs each time. */
 public final class ModelTest {
-    private static final int RUNS = 700;
-    private static final int CALLS = 480;
+    private static final int RUNS = 1000;
+    // The last step of a run may ask some 160 times more: 512 calls are promised.
+    private static final int CALLS = 340;
     private static final String[] DIRECT = {"size", "count", "twist", "turn", "clear", "put", "swap", "keep", "differ",
         "exchange", "told", "block", "number", "of", "sum", "amiss", "cover", "written", "open", "parted", "part", "see",
         "fits", "odds", "mean", "event", "after", "book", "looked", "judge", "image", "undo", "counted", "tape", "item",
@@ -114,7 +115,7 @@ public final class ModelTest {
     }
 
     private int someBlock() {
-        return any(15) == 0 ? someNumber(0, 56) : any(subject.told(0));
+        return any(15) == 0 ? someNumber(0, 56) : any(model.told(0));
     }
 
     private int someSet(int most) {
@@ -298,11 +299,11 @@ public final class ModelTest {
             case 0:
                 return any(3) == 0 ? "size " + between(3, 9) + " " + between(2, 4) + " " + between(0, 2) : "turn";
             case 1:
-                return "count " + any(subject.told(0) + 1) + " " + between(-105, 105);
+                return "count " + any(model.told(0) + 1) + " " + between(-105, 105);
             case 2:
                 return "twist " + someTwist() + " " + between(-3, 3);
             case 3:
-                return "put " + any(subject.told(0) + 1);
+                return "put " + any(model.told(0) + 1);
             case 4:
                 return "turn";
             case 5:

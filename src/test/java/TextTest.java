@@ -57,9 +57,8 @@ public final class TextTest {
 
     private static void fault(String text, int place) {
         TradedDesigns x = new TradedDesigns();
-        Look before = new Look(x);
         Check.feed(x, text);
-        Check.refused("13 '" + text + "'", x, before, x.read(), -10 - place);
+        Check.due("13 '" + text + "'", x.read(), -10 - place);
     }
 
     private static void faults() {
@@ -144,20 +143,20 @@ public final class TextTest {
         String ten = "put 000000;put 000001;put 000002;put 000003;put 000004;put 000005;put 000006;put 000007;put 000008;";
         Check.due("99 signs", ten.length(), 99);
         fault(ten + "t", 100);
-        TradedDesigns x = new TradedDesigns();
         String full = ten.substring(0, 88) + "put 0000;put";
         Check.due("100 signs", full.length(), 100);
-        Check.due("13 ends too early at 100", Check.read(x, full), -110);
+        Check.due("13 ends too early at 100", Check.read(new TradedDesigns(), full), -110);
         String whole = ten.substring(0, 88) + ";put 9;turn;";
-        Check.due("13 ;;", Check.read(x, whole), -98);
+        Check.due("13 ;;", Check.read(new TradedDesigns(), whole), -98);
         String good = ten.substring(0, 87) + ";put 9;turn;";
         Check.due("99 signs", good.length(), 99);
-        Check.due("13 nothing behind ;", Check.read(x, good), -109);
+        Check.due("13 nothing behind ;", Check.read(new TradedDesigns(), good), -109);
         String best = ten.substring(0, 87) + ";put 09;count";
         Check.due("100 signs", best.length(), 100);
-        Check.due("13 count at the end", Check.read(x, best), -110);
+        Check.due("13 count at the end", Check.read(new TradedDesigns(), best), -110);
         String last = ten.substring(0, 87) + ";put 9;put 10";
         Check.due("100 signs", last.length(), 100);
+        TradedDesigns x = new TradedDesigns();
         Check.due("13 100 signs that are right", Check.read(x, last), 10);
         Check.due("13 all put", x.told(5), 10);
         Check.due("13 last put", x.of(10, 1), 1);
@@ -181,6 +180,7 @@ public final class TextTest {
         x.count(2, 3);
         Look before = new Look(x);
         Check.feed(x, "size 5 2 1;put 0;keep;turn;swop");
-        Check.refused("13 fault at the end", x, before, x.read(), -10 - 29);
+        Check.due("13 fault at the end", x.read(), -10 - 29);
+        Check.text("13 a fault changes nothing", before.changeTo(new Look(x)), "");
     }
 }

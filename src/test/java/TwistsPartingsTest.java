@@ -147,7 +147,8 @@ public final class TwistsPartingsTest {
         Look before = new Look(x);
         x.part(2, 0);
         x.open(0);
-        Check.refused("22 to 24 are asked", x, before, x.parted(4), 0);
+        x.parted(4);
+        Check.text("22 to 24 are asked", before.changeTo(new Look(x)), "");
         Check.due("23 in turn", x.parted(2), 6);
         Check.due("23 in turn", x.parted(4), 0);
         Check.due("24 in turn", x.part(2, 2), 1);

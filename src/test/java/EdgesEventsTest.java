@@ -36,7 +36,10 @@ public final class EdgesEventsTest {
         after(run.does("event 3 b02"), 2, 2, -5);
         after(run.does("event 3 b12"), 2, 3, -5);
         run.refused("event 2 1", -2).refused("event 2 -1", -2);
-        // it may not be, and what comes behind happens
+        // it may not be: nothing, and what comes behind happens
+        after(new Run("size 4 2 1", "twist 1234 1", "put b12 1", "event 2 0"), 2, 1, -5);
+        after(new Run("size 4 2 1", "count b01 1", "put b23 1", "event 2 0"), 1, 1, -5);
+        after(new Run("size 4 2 1", "put b12 1", "put b03 1", "twist 1234 2", "event 2 0", "event 3 b02"), 4, 3, -5);
         after(new Run("size 4 2 1", "twist 1234 1", "put b12 1", "event 2 0", "event 3 b03"), 2, 2, 1);
         after(new Run("size 4 2 1", "event 2 0", "event 4 0"), 1, 0, 0);
     }

@@ -323,6 +323,23 @@ public final class EdgesTermsTest {
         right.due("swap", 5);
     }
 
+    @Holds(says = "if all BLOCKS whose count is -1 are in it, and none whose count is 1: these go from it, those come")
+    static void swappedFirstAndLastBlock() {
+        // -012+125+026-256+017-157-067+567, and the other way round
+        String[] minus = {"b012", "b256", "b157", "b067"};
+        String[] plus = {"b125", "b026", "b017", "b567"};
+        for (int times = -1; times <= 1; times += 2) {
+            Run run = new Run("size 8 3 2", "twist 162738 " + times);
+            for (String block : times < 0 ? minus : plus) {
+                run.refused("swap", -3).does("put " + block + " 1");
+            }
+            for (String block : times < 0 ? plus : minus) {
+                run.does("put " + block + " 1").refused("swap", -3).does("put " + block + " 0");
+            }
+            run.due("swap", 4).blocksIn(1, times < 0 ? "125 026 017 567" : "012 256 157 067");
+        }
+    }
+
     @Holds(says = "these go from it, those come")
     static void swappedBlocksGoAndCome() {
         new Run("twist 123456 1", "put b012 1", "put b124 1", "put b034 1", "put b025 1", "put b135 1", "put b345 1", "keep")

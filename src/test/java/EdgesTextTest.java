@@ -25,6 +25,11 @@ public final class EdgesTextTest {
         String most = many("put 000000;", 8) + "put 00001;tw";
         Check.due("bytes", most.length(), 100);
         new Run().feeds(most).refused("feed 105", -4).due("counted 3", 100).due("read", -110).due("feed 105", 1);
+        String[] ends = {"put 1;put 1;", "put 0001;put", "put 001;put ", "put 01;put -", "put 001;size", "turn;count 1"};
+        for (String end : ends) {
+            Check.due("bytes of '" + end + "'", end.length(), 12);
+            fault(many("put 000000;", 8) + end, 100);
+        }
         String last = many("put 000000;", 8) + "put 3;put 19";
         Check.due("bytes", last.length(), 100);
         new Run().reads(last, 10).blocksIn(1, "123 345");
@@ -289,6 +294,15 @@ public final class EdgesTextTest {
     static void readEmpties() {
         new Run().reads("turn", 1).due("counted 3", 0).due("read", -10).reads("tusk", -12).due("counted 3", 0)
                 .due("read", -10).reads("put 99", 0).due("counted 3", 0).reads("turn", 1);
+    }
+
+    // Nothing of a longer text stands behind a shorter one.
+    @Holds(promise = 13, says = "THE TEXT, which is empty then (by a FAULT, too), is a set-up")
+    static void readShorterTexts() {
+        new Run().reads("turn;keep", 2).reads("turn", 1).reads("turn;", -15).reads("put 12", 1).reads("put 1", 1)
+                .blocksIn(1, "013 125").reads("put ", -14).reads("put", -13).reads("count 1 23", 1).reads("count 1 2", 1)
+                .due("of 1 0", 102).reads("count 1", -17).reads("count -", -17).reads("", -10);
+        new Run().reads("size 5 3 1;put 0", 2).reads("size 6 3 2", 1).reads("size 6 3", -18).reads("siz", -13).reads("s", -11);
     }
 
     @Holds(promise = 13, says = "how many CLAUSES were done")

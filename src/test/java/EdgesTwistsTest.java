@@ -145,6 +145,14 @@ public final class EdgesTwistsTest {
         open(design(4, 2, 1, "03", "12"), 2, 1234, 2);
     }
 
+    @Holds(promise = 22, says = "OPEN TWISTS: what 0 how many, 1 the first (-5: there is none), 2 N of it, and 1 (-5)")
+    static void openAgain() {
+        design(4, 2, 1, "02", "13").due("open 0", 2).due("open 0", 2).due("open 1", 1234).due("open 2", 0).due("open 0", 2)
+                .does("put b02 0").due("open 0", 0).due("open 1", -5).due("open 2", -5)
+                .does("put b13 0", "put b12 1", "put b03 1").due("open 2", 2).due("open 1", 1234).due("open 0", 2)
+                .does("size 5 3 1").due("open 0", 0).due("open 1", -5);
+    }
+
     @Holds(promise = 22, says = "NONE")
     static void openNone() {
         Run.full(6, 3, 2).refused("open 3", -1).refused("open -1", -1).refused("open min", -1).refused("open max", -1);

@@ -26,6 +26,8 @@ public final class EdgesEventsTest {
         after(run.does("event 1 0"), 99, 0, 0);
         run.refused("event 1 1", -2).refused("event 1 -1", -2);
         after(new Run("event 1 0"), 0, 0, 0);
+        // nothing else happens: the design, which may be swapped then, is as it was
+        after(new Run("size 4 2 1", "twist 1234 -1", "put b12 1", "put b03 1", "event 1 0", "event 3 b02"), 2, 3, -5);
     }
 
     @Holds(says = "2 THE DESIGN is SWAPPED by THE ROW, if it may be (n 0)")
